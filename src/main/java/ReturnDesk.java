@@ -1271,7 +1271,7 @@ public final class ReturnDesk {
         void split(String names) {
             tokenCount = 0;
             int at = 0;
-            while (at < length) {
+            for (int i = 0; i < MOST_BYTES && at < length; i++) {
                 int b = byteAt(at);
                 int to = at + 1;
                 if (isLetter(b)) {
