@@ -6,6 +6,7 @@ public final class AskingsTest {
     public static void main(String[] args) {
         ask();
         askFull();
+        noText();
         spans();
         daysThatWere();
         sides();
@@ -76,6 +77,20 @@ public final class AskingsTest {
         C.due("NOT ahead of FULL", d.ask(0, 0, 0, 0, 7, 500), -2);
         C.due("the 201st", d.ask(1, 0, 0, 0, 8, 500), -3);
         C.due("that sale is OUT", d.ofSale(1, 0), 0);
+        C.due("asking 200 of 200", d.take(200), -1);
+    }
+
+    private static void noText() {
+        ReturnDesk d = sold(0, null);
+        d.ask(0, 0, 60, 10901, 7, 500);
+        C.due("best without any text", d.judged(0, 0, 0), 0);
+        C.due("worst without any text", d.judged(0, 0, 1), 0);
+        C.due("not open", d.ofAsking(0, 3), 0);
+        C.due("the law's", d.ofAsking(0, 9), 0);
+        C.due("not taken", d.take(0), -2);
+        Checks.text(d, 1, 0, "days=60 and worn=9:note 3");
+        C.due("the word alone", d.judged(0, 0, 0), 3003);
+        C.due("its side", d.ofAsking(0, 9), 1);
     }
 
     private static void spans() {
@@ -119,10 +134,17 @@ public final class AskingsTest {
         d.ask(1, 0, 40099, 0, 7, 500);
         C.due("none: days as told", d.judged(2, 13, 0), 4099);
         d.leave(2);
+        d.ask(1, 0, 999999, 0, 7, 500);
+        C.due("the last days", d.judged(3, 13, 1), 4100);
+        d.leave(3);
+        d.sell(0, 7, 0, 0, -1);
+        Checks.days(d, 2);
+        d.ask(2, 2, 0, 0, 7, 500);
+        C.due("sold on day 13, asked on day 15", d.judged(4, 15, 0), 4002);
         Checks.text(d, 0, 0, "refund days-1200");
-        Checks.days(d, 1217);
+        Checks.days(d, 1215);
         d.ask(1, 2, 0, 0, 7, 500);
-        C.due("more than 999 days", d.judged(3, 2999, 0), 4030);
+        C.due("more than 999 days", d.judged(5, 2999, 0), 4030);
     }
 
     private static void sides() {
@@ -354,6 +376,10 @@ public final class AskingsTest {
         C.due("the sorted one is there", d.stock(0, 0), 1);
         C.due("the lot is not", d.sell(4, 1, 0, 0, -1), -2);
         C.due("the other model is whole", d.stock(1, 0), 5);
+        d.sell(0, 2, 0, 0, -1);
+        d.ask(5, 2, 0, 0, 2, 100);
+        C.due("swap of the other model", d.take(5), 2100);
+        C.due("out of lot 0", d.stock(1, 0), 3);
         C.due("heap", d.stock(0, 2), 3);
     }
 

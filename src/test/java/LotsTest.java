@@ -7,6 +7,7 @@ public final class LotsTest {
         beyond();
         beyondExactly();
         beyondBig();
+        beyondFinely();
         since();
         honest();
         limit();
@@ -152,6 +153,24 @@ public final class LotsTest {
         C.due("since: too many ahead of any", d.since(0, 5000), -4);
     }
 
+    /** 10 or more of 34 among 60 with 17 BAD: 5328.99984 of 10000. */
+    private static void beyondFinely() {
+        ReturnDesk d = Checks.shop(0);
+        d.lot(0, 0, 99);
+        sellMany(d, 0, 34);
+        sellMany(d, 1, 26);
+        Checks.text(d, 0, 0, "mend");
+        for (int i = 0; i < 17; i++) {
+            comesBack(d, 24 + i, 110000);
+        }
+        C.due("5328", d.beyond(0, 5328, 0), 0);
+        C.due("5329", d.beyond(0, 5329, 0), 1);
+        C.due("since 5328", d.since(0, 5328), -2);
+        C.due("since 5329", d.since(0, 5329), 0);
+        C.due("least p", d.beyond(0, 1, 0), 0);
+        C.due("since least p", d.since(0, 1), -2);
+    }
+
     private static void since() {
         ReturnDesk d = Checks.shop(0);
         C.due("nothing sold", d.since(0, 9999), -2);
@@ -179,6 +198,15 @@ public final class LotsTest {
         C.due("though it is not now", d.beyond(0, 9999, 10), 0);
         C.due("it was", d.since(0, 1667), 9);
         C.due("a sixth is 1666.7", d.since(0, 1666), -2);
+        ReturnDesk e = Checks.shop(0);
+        e.lot(0, 0, 9);
+        Checks.text(e, 0, 0, "mend");
+        sellMany(e, 0, 1);
+        sellMany(e, 1, 1);
+        Checks.days(e, 4);
+        comesBack(e, 0, 110000);
+        Checks.days(e, 4);
+        C.due("since its first sale was mended", e.since(0, 5001), 4);
     }
 
     private static void honest() {
@@ -246,6 +274,9 @@ public final class LotsTest {
         C.due("buyer -1", d.hits(-1), -1);
         Checks.limit(d, "0-1");
         C.due("only buyers with a sale", d.tried(3), 6);
+        d.honest(5, 0);
+        C.due("not told ones with a sale", d.tried(2), 1);
+        C.due("not honest ones with a sale", d.tried(1), 3);
         C.due("honest ones with a sale", d.tried(0), 2);
         C.due("hits without a sale", d.hits(9), 1);
     }
@@ -281,6 +312,9 @@ public final class LotsTest {
         ReturnDesk d = Checks.shop(9000);
         Checks.text(d, 0, 0, "refund 1");
         d.sell(0, 1, 0, 3, -1);
+        d.sell(0, 1, 0, 4, -1);
+        comesBack(d, 1, 0);
+        C.due("back on day 0", hit(d, 4, "back and lately"), 1);
         Checks.days(d, 2);
         comesBack(d, 0, 0);
         Checks.limit(d, "lately");
@@ -371,6 +405,9 @@ public final class LotsTest {
         C.due("by 2", d.carrier(2, 0), 3);
         C.due("by 4", d.carrier(4, 0), 1);
         C.due("by 0", d.carrier(0, 0), 0);
+        d.brought(4, 0);
+        C.due("was brought by 0", d.brought(4, 0), -2);
+        C.due("by 0, once", d.carrier(0, 0), 1);
         C.due("the same day", d.damage(0), 1);
         C.due("told", d.damage(0), -2);
         Checks.days(d, 3);

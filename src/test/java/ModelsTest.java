@@ -46,6 +46,7 @@ public final class ModelsTest {
         C.due("the 21st", d.model(1, 1, 1), -3);
         C.due("BAD is named ahead of FULL", d.model(10, 1, 1), -1);
         C.due("count", d.count(0), 20);
+        C.due("model 20 of 20", d.priceOn(20, 0), -1);
     }
 
     private static void price() {
@@ -105,6 +106,7 @@ public final class ModelsTest {
         C.due("the 61st", d.lot(0, 0, 1), -3);
         C.due("BAD ahead of FULL", d.lot(0, 0, 0), -1);
         C.due("count", d.count(1), 60);
+        C.due("lot 60 of 60", d.ofLot(60, 0, 0), -1);
         C.due("stock", d.stock(0, 0), 59);
     }
 

@@ -80,6 +80,8 @@ public final class SalesTest {
         C.due("the 301st", d.sell(3, 1, 0, 0, -1), -3);
         C.due("NOT ahead of FULL", d.sell(0, 1, 0, 0, -1), -2);
         C.due("BAD ahead of both", d.sell(0, 1, 0, 61, -1), -1);
+        C.due("sale 300 of 300", d.ofSale(300, 0), VOID);
+        C.due("keep 300 of 300", d.keep(300), -1);
         C.due("left", d.stock(0, 0), 96);
     }
 
@@ -149,6 +151,7 @@ public final class SalesTest {
         C.due("between", d.join(0, 7, 6, 9), -10);
         C.due("the other card", d.join(0, 8, 0, 10), 3);
         C.due("card 0", d.join(0, 0, 0, 10), -1);
+        C.due("card 1", d.join(0, 1, 0, 10), -10);
         C.due("card 10000", d.join(0, 10000, 0, 10), -1);
         C.due("card 9999", d.join(0, 9999, 0, 10), -10);
         C.due("from above to", d.join(0, 7, 6, 5), -1);

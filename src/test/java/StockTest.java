@@ -185,5 +185,11 @@ public final class StockTest {
         d.sort(e);
         C.due("again one", d.sellUsed(0), 90);
         C.due("again none", d.sellUsed(0), -2);
+        d.sort(back(d, 0, 100, 500));
+        d.sort(back(d, 0, 200, 500));
+        C.due("first of two", d.sellUsed(0), 82);
+        d.sort(back(d, 0, 300, 500));
+        C.due("second, ahead of the third", d.sellUsed(0), 74);
+        C.due("third", d.sellUsed(0), 66);
     }
 }

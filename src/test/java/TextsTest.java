@@ -305,6 +305,9 @@ public final class TextsTest {
         C.due("month", named(d, "month", 0, 0, 2), 4005);
         C.due("threes", named(d, "threes", 0, 0, 2), 4002);
         C.due("times", named(d, "times", 0, 0, 2), 4000);
+        Checks.days(d, 1);
+        d.sell(0, 1, 0, 60, -1);
+        C.due("the next month", named(d, "month", 2, 0, 2), 4006);
         d.price(0, 0, 99);
         C.due("price of the sale, not of today", named(d, "price", 0, 0, 2), 4088);
     }
