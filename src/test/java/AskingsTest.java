@@ -20,6 +20,7 @@ public final class AskingsTest {
         mend();
         takeRefused();
         leave();
+        beyondAllCalls();
         C.finish();
     }
 
@@ -455,6 +456,23 @@ public final class AskingsTest {
         C.due("paid so far", e.count(10), 2000);
         e.gift(2, 1);
         C.due("a gift needs none", e.take(3), 4100);
+    }
+
+    /** 600 calls: what is answered behind the 512th is free, but nothing may be thrown. */
+    private static void beyondAllCalls() {
+        ReturnDesk d = Checks.shop(0);
+        Checks.text(d, 0, 0, "note 100");
+        for (int i = 0; i < 4; i++) {
+            d.lot(0, 0, 50);
+        }
+        for (int i = 0; i < 200; i++) {
+            d.sell(i / 50, 7, 0, 0, -1);
+            d.ask(i, 2, 0, 0, 7, 500);
+            d.take(i);
+        }
+        C.due("notes", d.count(4), 200);
+        C.due("on all of them", d.count(6), 200000);
+        C.due("note 200 of 200", d.note(200), -1);
     }
 
     private static void leave() {

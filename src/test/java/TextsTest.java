@@ -157,6 +157,8 @@ public final class TextsTest {
         fault("refund (((((((((((1)))))))))))", 17);
         fault("((((((((((not 1)))))))))):no", 10);
         fault("1 and not not not not not not not not not not (1):no", 46);
+        fault("1+".repeat(100), 200);
+        fault("1+".repeat(99) + "1)", 199);
         fault("no;".repeat(66) + "nn", 198);
         fault("no;".repeat(66) + "  ", 200);
     }
@@ -226,6 +228,8 @@ public final class TextsTest {
             + " not 0 and not 0 and not 0 and not 0:swap", 2100);
         good("(1)+(1)+(1)+(1)+(1)+(1)+(1)+(1)+(1)+(1)+(1)+(1)=12:swap", 2100);
         good("refund ((((((((((11))))))))))", 4011);
+        good("1+".repeat(98) + "1:no", 0);
+        good("0+".repeat(96) + "1:swap", 2100);
         good("no;".repeat(66) + "no", 0);
         good("0:swap;".repeat(28) + "swap", 2100);
         good("not ".repeat(10) + "1+".repeat(70) + "1=71:swap", 2100);
