@@ -115,6 +115,9 @@ public final class AskingEdgesTest {
         s.until(48).due("ask(4, 2, 60, 0, 7, 500)", 4).due("judged(4, 2, 0)", 4002).due("judged(4, 2, 1)", 4002);
         s.until(71999).text(0, 0, "refund days-2900", 1).due("ask(5, 1, 0, 0, 7, 500)", 5).due("judged(5, 2999, 0)", 4099);
         s.due("judged(4, 2998, 0)", 4002).due("judged(4, 2999, 0)", 4000);
+        Scene t = Scene.shop(C).until(3 * 24 + 23).times(2, "sell(0, 7, 0, 0, -1)").text(0, 0, "refund days", 0).until(5 * 24);
+        t.due("ask(0, 2, 0, 0, 7, 500)", 0).due("judged(0, 5, 0)", 4002).due("judged(0, 5, 1)", 4002).until(7 * 24);
+        t.due("judged(0, 7, 0)", 4002).due("ask(1, 1, 0, 0, 7, 500)", 1).due("judged(1, 7, 0)", 4004).due("judged(1, 7, 1)", 4004);
     }
 
     /** Each from a least to a greatest: both ends are FACTS, what is beside them isn't. */
@@ -122,6 +125,9 @@ public final class AskingEdgesTest {
         String[] names = {"days", "fault", "worn", "opened"};
         int[][] wide = {{100, 160}, {0, 1}, {3, 8}, {0, 1}};
         int[][] narrow = {{0, 0}, {1, 1}, {9, 9}, {1, 1}};
+        for (int v = 938; v <= 1000; v++) {
+            bestAndWorst("days", v, "ask(0, 0, 939999, 0, 7, 500)", v >= 939 && v <= 999, false);
+        }
         for (int i = 0; i < names.length; i++) {
             for (int v = wide[i][0] - 1; v <= wide[i][1] + 1; v++) {
                 bestAndWorst(names[i], v, "ask(0, 0, 100160, 13801, 7, 500)", within(v, wide[i]), false);
@@ -179,9 +185,10 @@ public final class AskingEdgesTest {
 
     /** price times E times 10, 9, 8, 6, 0, divided by 1000 (the rest away): what has a WORTH of 0 is like no. */
     private static void worthsWithTheRestAway() {
-        String[] outs = {"refund 100", "note 100", "swap", "mend", "refund 50", "note 11"};
-        int[] least = {1, 2, 2, 2, 2, 11};
-        int[] said = {4100, 3100, 2100, 1100, 4050, 3011};
+        String[] outs = {"refund 100", "note 100", "swap", "mend", "refund 50", "note 11", "note 1", "note 2", "refund 1",
+            "refund 3"};
+        int[] least = {1, 2, 2, 2, 2, 11, 112, 56, 100, 34};
+        int[] said = {4100, 3100, 2100, 1100, 4050, 3011, 3001, 3002, 4001, 4003};
         for (int i = 0; i < outs.length; i++) {
             judgedBy("no", outs[i], least[i] - 1, 0, 0).due("judged(0, 0, 0)", 0).due("ofAsking(0, 9)", 0);
             judgedBy("no", outs[i], least[i], 0, 0).due("judged(0, 0, 0)", said[i]).due("ofAsking(0, 9)", 1);

@@ -65,6 +65,9 @@ public final class LimitEdgesTest {
         Scene s = Scene.rich(C).due("hits(5)", 1).due("hits(6)", 0).limit("not back back", -109).due("hits(5)", 1).due("hits(6)", 0);
         s.due("limit()", -100).due("hits(5)", 1).due("tried(3)", 2).limit("not back", 1).due("hits(5)", 0).due("hits(6)", 1);
         s.limit("no", -100).due("hits(5)", 0).due("hits(6)", 1).due("tried(3)", 2);
+        Scene.rich(C).likeBehind("limit()", -100, "end(0)");
+        Scene.rich(C).tape("").likeBehind("limit()", -100, "end(0)");
+        Scene.rich(C).tape("back<1<2").likeBehind("limit()", -106, "end(0)");
     }
 
     /** Promise 33: which 0 .. 3. */

@@ -109,13 +109,22 @@ final class Scene {
     /** The call is refused, and what follows is as if it hadn't been made. */
     Scene refused(String call, int want) {
         checks.due(call, answer(desk, call), want);
-        ReturnDesk without = likeDesk();
-        ReturnDesk with = likeDesk();
-        checks.due(call + " on a like desk", answer(with, call), want);
+        return likeBehind(call, want, null);
+    }
+
+    /** On like desks: what follows the call is as what follows the other one, or as if none had been made (null). */
+    Scene likeBehind(String call, int want, String other) {
+        ReturnDesk behindCall = likeDesk();
+        ReturnDesk behindOther = likeDesk();
+        checks.due(call + " on a like desk", answer(behindCall, call), want);
+        if (other != null) {
+            answer(behindOther, other);
+        }
         int room = MOST_CALLS - 1 - made.size();
         List<String> probe = Probe.calls(likeDesk());
         for (int i = 0; i < probe.size() && i < room; i++) {
-            checks.due(probe.get(i) + " behind the refused " + call, answer(with, probe.get(i)), answer(without, probe.get(i)));
+            String next = probe.get(i);
+            checks.due(next + " behind " + call, answer(behindCall, next), answer(behindOther, next));
         }
         return this;
     }

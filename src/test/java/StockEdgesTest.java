@@ -138,8 +138,8 @@ public final class StockEdgesTest {
 
     /** The way of the greatest WORTH NOW: by one coin. */
     private static void greatestWay() {
-        back(5, 0, 500).due("sort(0)", 0);
-        back(4, 0, 500).due("sort(0)", 3);
+        back(5, 0, 500).due("sort(0)", 0).due("count(5)", 5).due("stock(0, 3)", 0);
+        back(4, 0, 500).due("sort(0)", 3).due("count(5)", 9).due("stock(0, 3)", 1);
         back(6, 1, 500).due("worth(0, 1)", 5).due("sort(0)", 1);
         back(5, 1, 500).due("worth(0, 1)", 4).due("sort(0)", 3);
         back(39, 110000, 500).due("worth(0, 2)", 5).due("sort(0)", 2);

@@ -92,6 +92,12 @@ public final class TextEdgesTest {
         Scene s = Scene.shop(C).calls("sell(0, 1, 0, 0, -1)").text(0, 0, "swap", 0).due("count(9)", 0);
         s.text(0, 0, "mend mend", -105).due("count(9)", 0).due("count(8)", 1).due("inForce(0, 0, 0)", 0);
         s.due("says(0, 0, 0, 2)", 2100).due("text(0, 0)", -100).text(1, 0, "mend", 1);
+        String[] faulty = {"", "nn", "swap;", "refund 123456", "(((((((((((1)))))))))))"};
+        int[] places = {0, 0, 5, 7, 10};
+        for (int i = 0; i < faulty.length; i++) {
+            Scene t = Scene.rich(C).tape(faulty[i]);
+            t.likeBehind("text(0, 0)", -100 - places[i], "end(0)").likeBehind("text(1, 2999)", -100 - places[i], "end(0)");
+        }
     }
 
     private static void good(String words, int says) {
